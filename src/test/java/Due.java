@@ -13,6 +13,10 @@ final class Due {
         }
     }
 
+    void accepted(String call, Call c) {
+        throwing(call, c, null);
+    }
+
     void outOfBounds(String call, Call c) {
         throwing(call, c, IndexOutOfBoundsException.class);
     }
@@ -30,8 +34,12 @@ final class Due {
             thrown = e.getClass();
         }
         if (thrown != want) {
-            tell(call + (thrown == null ? " throws nothing" : " throws " + thrown) + ", due is " + want);
+            tell(call + " throws " + named(thrown) + ", due is " + named(want));
         }
+    }
+
+    private static String named(Class<?> thrown) {
+        return thrown == null ? "nothing" : thrown.getName();
     }
 
     void tell(String what) {

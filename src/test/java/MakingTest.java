@@ -35,24 +35,6 @@ public final class MakingTest {
         DUE.end();
     }
 
-    /** X and Y grow from corner 0 to 1 and from 0 to 2: the area is above 0. */
-    private static VertexWork simple() {
-        VertexWork v = new VertexWork();
-        v.place(0, 0, 0, 0, ONE);
-        v.place(1, ONE, 0, 0, ONE);
-        v.place(2, 0, ONE, 0, ONE);
-        return v;
-    }
-
-    /** All three corners at one place, which then can be read as corner 0 of triangle 0. */
-    private static VertexWork spot(int x, int y, int z, int w) {
-        VertexWork v = new VertexWork();
-        for (int j = 0; j < 3; j++) {
-            v.place(j, x, y, z, w);
-        }
-        return v;
-    }
-
     private static void gets(String name, VertexWork v, int t, int what, int... want) {
         for (int j = 0; j < 3; j++) {
             DUE.is(name + ": got(" + t + ", " + j + ", " + what + ")", v.got(t, j, what), want[j]);
@@ -70,7 +52,7 @@ public final class MakingTest {
             v.place(j, 0, 0, 0, ONE);
             DUE.is("1: make() with corners 0 .. " + j, v.make(), j == 0 ? 1 : j == 1 ? 2 : 1);
         }
-        VertexWork s = simple();
+        VertexWork s = Shapes.simple();
         DUE.is("1: make()", s.make(), 1);
         gets("1", s, 0, 0, 8, 16, 8);
         gets("1", s, 0, 1, 8, 8, 16);
@@ -88,7 +70,7 @@ public final class MakingTest {
 
     /** Promise 8. */
     private static void placeArguments() {
-        VertexWork v = simple();
+        VertexWork v = Shapes.simple();
         v.make();
         for (int j : new int[] {-1, 3, MIN, MAX}) {
             DUE.illegal("8: place(" + j + ", ..)", () -> {
@@ -103,7 +85,7 @@ public final class MakingTest {
 
     /** Promise 9. */
     private static void varyArguments() {
-        VertexWork v = simple();
+        VertexWork v = Shapes.simple();
         v.make();
         int[][] wrong = {{-1, 0}, {3, 0}, {MIN, 0}, {MAX, 0}, {0, -1}, {0, 7}, {2, MIN}, {2, MAX}};
         for (int[] a : wrong) {
@@ -120,7 +102,7 @@ public final class MakingTest {
     }
 
     private static void everyVarying() {
-        VertexWork v = simple();
+        VertexWork v = Shapes.simple();
         for (int j = 0; j < 3; j++) {
             for (int n = 0; n < 7; n++) {
                 int base = 1000 * j + 10 * n;
@@ -140,7 +122,7 @@ public final class MakingTest {
 
     /** Promise 10. */
     private static void viewArguments() {
-        VertexWork v = simple();
+        VertexWork v = Shapes.simple();
         v.make();
         int[][] wrong = {
             {-1024, 0, 9, 9, 0, 9}, {1024, 0, 9, 9, 0, 9}, {MIN, 0, 9, 9, 0, 9}, {MAX, 0, 9, 9, 0, 9},
@@ -163,7 +145,7 @@ public final class MakingTest {
     }
 
     private static void viewEdges() {
-        VertexWork v = simple();
+        VertexWork v = Shapes.simple();
         v.view(-1023, 1023, 1, 1, 0, 0);
         v.make();
         gets("10", v, 0, 0, -16368 + 8, -16368 + 16, -16368 + 8);
@@ -184,7 +166,7 @@ public final class MakingTest {
 
     /** Promise 11. */
     private static void facesArguments() {
-        VertexWork v = simple();
+        VertexWork v = Shapes.simple();
         v.make();
         for (int out : new int[] {-1, 4, 5, MIN, MAX}) {
             DUE.illegal("11: faces(" + out + ", true)", () -> {
@@ -204,7 +186,7 @@ public final class MakingTest {
     }
 
     private static void whatIsGone() {
-        VertexWork v = simple();
+        VertexWork v = Shapes.simple();
         DUE.is("8: make()", v.make(), 1);
         v.place(0, 0, 0, 0, ONE);
         isGone("8", v);
@@ -220,7 +202,7 @@ public final class MakingTest {
     }
 
     private static void whatStays() {
-        VertexWork v = simple();
+        VertexWork v = Shapes.simple();
         v.make();
         v.word(0, 1);
         v.attribute(0, 0, 1, 4, 0);
@@ -236,7 +218,7 @@ public final class MakingTest {
     }
 
     private static void makeAgain() {
-        VertexWork v = simple();
+        VertexWork v = Shapes.simple();
         v.place(2, 0, ONE, -200000, ONE);
         for (int again = 0; again < 3; again++) {
             DUE.is("12: make() again", v.make(), 2);
@@ -250,25 +232,25 @@ public final class MakingTest {
 
     /** What isn't below 0 is inside. */
     private static void whatIsInside() {
-        DUE.is("12: w 256", spot(0, 0, 0, 256).make(), 1);
-        DUE.is("12: w 255", spot(0, 0, 0, 255).make(), 0);
-        DUE.is("12: z + w 0", spot(0, 0, -256, 256).make(), 1);
-        DUE.is("12: z + w -1", spot(0, 0, -257, 256).make(), 0);
-        DUE.is("12: z + w 0, far", spot(0, 0, -MAX, MAX).make(), 1);
-        DUE.is("12: z + w -1, far", spot(0, 0, MIN, MAX).make(), 0);
-        DUE.is("12: w 0", spot(0, 0, MAX, 0).make(), 0);
-        DUE.is("12: w below 0", spot(0, 0, MAX, -1).make(), 0);
+        DUE.is("12: w 256", Shapes.spot(0, 0, 0, 256).make(), 1);
+        DUE.is("12: w 255", Shapes.spot(0, 0, 0, 255).make(), 0);
+        DUE.is("12: z + w 0", Shapes.spot(0, 0, -256, 256).make(), 1);
+        DUE.is("12: z + w -1", Shapes.spot(0, 0, -257, 256).make(), 0);
+        DUE.is("12: z + w 0, far", Shapes.spot(0, 0, -MAX, MAX).make(), 1);
+        DUE.is("12: z + w -1, far", Shapes.spot(0, 0, MIN, MAX).make(), 0);
+        DUE.is("12: w 0", Shapes.spot(0, 0, MAX, 0).make(), 0);
+        DUE.is("12: w below 0", Shapes.spot(0, 0, MAX, -1).make(), 0);
     }
 
     private static void reckonedWithoutWrapping() {
-        DUE.is("12: z + w beyond an int", spot(0, 0, MAX, MAX).make(), 1);
-        DUE.is("12: z + w below an int", spot(0, 0, MIN, MIN).make(), 0);
-        DUE.is("12: w - 256 below an int", spot(0, 0, MAX, MIN).make(), 0);
-        DUE.is("12: w - 256 below an int, near 0", spot(0, 0, MAX, MIN + 1).make(), 0);
+        DUE.is("12: z + w beyond an int", Shapes.spot(0, 0, MAX, MAX).make(), 1);
+        DUE.is("12: z + w below an int", Shapes.spot(0, 0, MIN, MIN).make(), 0);
+        DUE.is("12: w - 256 below an int", Shapes.spot(0, 0, MAX, MIN).make(), 0);
+        DUE.is("12: w - 256 below an int, near 0", Shapes.spot(0, 0, MAX, MIN + 1).make(), 0);
     }
 
     private static VertexWork marked() {
-        VertexWork v = simple();
+        VertexWork v = Shapes.simple();
         v.view(0, 0, 64, 64, 0, DEEPEST);
         v.vary(0, 0, 0, 100, 0, 0);
         v.vary(1, 0, ONE, 200, 0, 0);
@@ -341,7 +323,7 @@ public final class MakingTest {
 
     /** B less A, and what NEAR is, go beyond an int. */
     private static void cutOfTheFarthest() {
-        VertexWork v = spot(0, 0, MAX, MAX);
+        VertexWork v = Shapes.spot(0, 0, MAX, MAX);
         v.place(1, 0, 0, MIN, MAX);
         v.vary(0, 6, MAX, MIN, 0, 0);
         v.vary(1, 6, MIN, MAX, 0, 0);
@@ -364,11 +346,11 @@ public final class MakingTest {
             {-ONE - 120, ONE, -1023, 1024, -16383}, {3 * ONE, 7 * ONE, 10, 100, 160 + 1142},
         };
         for (int[] c : cases) {
-            VertexWork v = spot(c[0], -12345, 0, c[1]);
+            VertexWork v = Shapes.spot(c[0], -12345, 0, c[1]);
             v.view(c[2], 7, c[3], 13, 0, 9);
             v.make();
             DUE.is("14: X of x, w, view, wide " + Arrays.toString(c), v.got(0, 0, 0), c[4]);
-            v = spot(-12345, c[0], 0, c[1]);
+            v = Shapes.spot(-12345, c[0], 0, c[1]);
             v.view(7, c[2], 13, c[3], 0, 9);
             v.make();
             DUE.is("14: Y of y, w, view, high " + Arrays.toString(c), v.got(0, 0, 1), c[4]);
@@ -387,7 +369,7 @@ public final class MakingTest {
             {-1, MAX, 0, DEEPEST, 8388479}, {MAX, MAX, 3, 5, 5},
         };
         for (int[] c : cases) {
-            VertexWork v = spot(0, 0, c[0], c[1]);
+            VertexWork v = Shapes.spot(0, 0, c[0], c[1]);
             v.view(0, 0, 1, 1, c[2], c[3]);
             v.make();
             DUE.is("14: depth of z, w, near, far " + Arrays.toString(c), v.got(0, 0, 2), c[4]);
@@ -400,7 +382,7 @@ public final class MakingTest {
             {1 << 30, 1}, {(1 << 30) + 1, 1}, {MAX, 1},
         };
         for (int[] c : cases) {
-            VertexWork v = spot(0, 0, 0, c[0]);
+            VertexWork v = Shapes.spot(0, 0, 0, c[0]);
             v.make();
             DUE.is("14: Q of w " + c[0], v.got(0, 0, 3), c[1]);
         }
@@ -413,11 +395,11 @@ public final class MakingTest {
             boolean noBack = out == 2 || out == 3;
             int front = noFront ? VertexWork.NONE : 0;
             int back = noBack ? VertexWork.NONE : 1;
-            VertexWork above = simple();
-            VertexWork below = simple();
+            VertexWork above = Shapes.simple();
+            VertexWork below = Shapes.simple();
             below.place(0, ONE, ONE, 0, ONE);
             below.place(1, ONE, 0, 0, ONE);
-            VertexWork flat = spot(0, 0, 0, ONE);
+            VertexWork flat = Shapes.spot(0, 0, 0, ONE);
             for (int turn = 0; turn < 2; turn++) {
                 boolean clock = turn == 1;
                 String name = "13: side(0) after faces(" + out + ", " + clock + ")";
@@ -436,7 +418,7 @@ public final class MakingTest {
         }
     }
 
-    /** Promise 15: the largest areas go beyond an int. */
+    /** Promise 15: the greatest and the least area, and those of a triangle that is cut. */
     private static void areas() {
         VertexWork v = new VertexWork();
         v.place(0, MIN, MIN, 0, 256);
@@ -448,7 +430,7 @@ public final class MakingTest {
         v.place(2, MAX, MIN, 0, 256);
         v.make();
         DUE.is("15: area(0)", v.area(0), -32767L * 32767L);
-        VertexWork cut = simple();
+        VertexWork cut = Shapes.simple();
         cut.view(0, 0, 64, 64, 0, DEEPEST);
         cut.place(2, 0, ONE, -200000, ONE);
         DUE.is("15: make()", cut.make(), 2);
@@ -458,7 +440,7 @@ public final class MakingTest {
     }
 
     private static void noSuchTriangle() {
-        VertexWork v = simple();
+        VertexWork v = Shapes.simple();
         v.make();
         for (int t : new int[] {-1, 1, 2, 3, 4, MIN, MAX}) {
             DUE.outOfBounds("13: side(" + t + ")", () -> v.side(t));
@@ -476,7 +458,7 @@ public final class MakingTest {
 
     /** Promise 14; that the triangle is missing is told first, as the document tells it first. */
     private static void gotArguments() {
-        VertexWork v = simple();
+        VertexWork v = Shapes.simple();
         v.make();
         int[][] wrong = {{-1, 0}, {3, 0}, {MIN, 0}, {MAX, 0}, {0, -1}, {0, 32}, {2, MIN}, {2, MAX}, {3, 32}};
         for (int[] a : wrong) {
