@@ -31,6 +31,7 @@ public final class FaceTest {
         constructors(due);
         fields(due);
         methods(due);
+        classesInside(due);
         due.end();
     }
 
@@ -75,6 +76,20 @@ public final class FaceTest {
             if (names.contains(name)) {
                 due.tell("a private method bears the public name " + name);
             }
+        }
+    }
+
+    /** LANGUAGE.md, rules 1 and 11. */
+    private static void classesInside(Due due) {
+        Class<?>[] all = VertexWork.class.getDeclaredClasses();
+        for (Class<?> c : all) {
+            int seen = c.getModifiers() & (Modifier.PUBLIC | Modifier.PROTECTED);
+            if (seen != 0 || !Modifier.isStatic(c.getModifiers())) {
+                due.tell("the class " + c.getName() + " inside is not static, or can be seen");
+            }
+        }
+        if (all.length > 11) {
+            due.tell("there are " + all.length + " classes inside");
         }
     }
 
